@@ -32,6 +32,10 @@ final class Script {
         }
     }
 
+    static int wrongAnswers() {
+        return wrong;
+    }
+
     /** Ends the program with exit code 1 if an answer was not the one that was due. */
     static void end() {
         if (calls == 0) {
