@@ -7,6 +7,10 @@ public final class DeliveryTest {
             + "connect(1, 0, 0, 3) = 1; connect(1, 1, 2, 3) = 2; connect(3, 3, 1, 2) = 3;"
             + "connect(4, 0, 3, 0) = 4; addHost(0, 0) = 0; addHost(0, 1) = 1; addHost(1, 3) = 2;"
             + "addHost(2, 0) = 3; addHost(3, 1) = 4; addHost(4, 1) = 5; addHost(4, 2) = 6;";
+    private static final String FIVE_IN_A_ROW =
+            "addBridge() = 0; addBridge() = 1; addBridge() = 2; addBridge() = 3; addBridge() = 4;"
+            + "connect(4, 0, 2, 0) = 1; connect(2, 1, 0, 0) = 2; connect(0, 1, 3, 0) = 3;"
+            + "connect(3, 1, 1, 0) = 4; addHost(4, 3) = 0; addHost(1, 3) = 1;";
     private static final String ONE_BRIDGE =
             "addBridge() = 0; addHost(0, 0) = 0; addHost(0, 1) = 1; addHost(0, 2) = 2;";
 
@@ -56,7 +60,11 @@ public final class DeliveryTest {
         Script.run("19: all eight hosts have a bit",
                 TREE, "addHost(4, 3) = 7; join(0, 0) = 1; join(1, 0) = 1; join(2, 0) = 1;",
                 "join(3, 0) = 1; join(4, 0) = 1; join(5, 0) = 1; join(6, 0) = 1; join(7, 0) = 1;",
-                "tick(20) = 48; receivers(0, 0) = 254; receivers(7, 0) = 127; receivers(3, 0) = 247");
+                "tick(20) = 48; receivers(0, 0) = 254; receivers(7, 0) = 127; receivers(3, 0) = 247;",
+                "missedCount(0, 0) = 0; needlessCount(0, 0) = 0; missedCount(7, 1) = 0");
+        Script.run("19: a frame passes five bridges",
+                FIVE_IN_A_ROW, "join(0, 3) = 1; tick(10) = 12; receivers(1, 3) = 1;",
+                "receivers(0, 3) = 0; join(1, 3) = 1; tick(10) = 12; receivers(0, 3) = 2");
     }
 
     private static void missedCount() {
@@ -92,6 +100,9 @@ public final class DeliveryTest {
                 "hostApplicant(1, 0) = OBSERVER; needlessCount(0, 0) = 2; join(1, 0) = 1;",
                 "needlessCount(0, 0) = 1; tick(6) = 3; needlessCount(0, 0) = 0;",
                 "receivers(0, 0) = 2");
+        Script.run("21: the first host counts too",
+                ONE_BRIDGE, "join(0, 0) = 1; tick(2) = 4; leave(0, 0) = 1;",
+                "needlessCount(1, 0) = 1; needlessCount(0, 0) = 0");
         Script.run("21: over links, and for one group alone",
                 TREE, "join(6, 3) = 1; join(5, 3) = 1; join(6, 2) = 1; tick(20) = 48;",
                 "leave(6, 3) = 1; needlessCount(0, 3) = 1; needlessCount(5, 3) = 1;",
@@ -106,10 +117,7 @@ public final class DeliveryTest {
                 "distance(0, 4) = 3; distance(0, 5) = 4; distance(6, 1) = 4; distance(5, 6) = 1;",
                 "distance(3, 4) = 3; distance(3, 6) = 4; distance(4, 5) = 2; distance(2, 4) = 2");
         Script.run("22: all five bridges in a row",
-                "addBridge() = 0; addBridge() = 1; addBridge() = 2; addBridge() = 3;",
-                "addBridge() = 4; connect(4, 0, 2, 0) = 1; connect(2, 1, 0, 0) = 2;",
-                "connect(0, 1, 3, 0) = 3; connect(3, 1, 1, 0) = 4; addHost(4, 3) = 0;",
-                "addHost(1, 3) = 1; distance(0, 1) = 5; distance(1, 0) = 5");
+                FIVE_IN_A_ROW, "distance(0, 1) = 5; distance(1, 0) = 5");
         Script.run("22: hosts that are not connected with each other",
                 TREE, "cut(1, 2) = 3; distance(0, 4) = 0; distance(4, 0) = 0; distance(0, 3) = 3;",
                 "distance(4, 6) = 2; connect(2, 1, 4, 3) = 4; distance(0, 4) = 5;",

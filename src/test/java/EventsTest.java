@@ -171,6 +171,11 @@ public final class EventsTest {
                 "hostApplicant(0, 1) = ANXIOUS; setTimes(9, 0) = 1; setSilent(0, false) = 1;",
                 "tick(1) = 1; hostApplicant(0, 1) = ANXIOUS; tick(3) = 1;",
                 "hostApplicant(0, 1) = QUIET; hostApplicant(0, 0) = OBSERVER");
+        Script.run("11: a leave-all of one port leaves the registrars of the others alone",
+                ONE_HOST, "setTimes(3, 5) = 1; join(0, 0) = 1; join(0, 3) = 1; tick(2) = 4;",
+                "addHost(0, 1) = 1; join(1, 0) = 1; join(1, 3) = 1; tick(2) = 10; tick(1) = 3;",
+                "registrar(0, 0, 0) = LEAVING; registrar(0, 0, 3) = LEAVING;",
+                "registrar(0, 1, 0) = IN; registrar(0, 1, 3) = IN; hostApplicant(1, 0) = QUIET");
         Script.run("11: with leave time 1 a registrar is empty after one tick",
                 ONE_HOST, "setTimes(1, 0) = 1; join(0, 0) = 1; tick(2) = 2; leave(0, 0) = 1;",
                 "tick(1) = 1; registrar(0, 0, 0) = LEAVING; registrarTimer(0, 0, 0) = 1;",

@@ -104,6 +104,10 @@ public final class StatesTest {
         Script.run("18: a port that declares what is no longer wanted",
                 TWO_BRIDGES, "join(1, 2) = 1; tick(5) = 6; isSettled() = 1; cut(0, 0) = 0;",
                 "isSettled() = 0; tick(1) = 1; isSettled() = 1");
+        Script.run("18: an anxious applicant of a port that is no longer wanted",
+                ONE_HOST, "addBridge() = 1; connect(0, 1, 1, 0) = 1; addHost(1, 1) = 1;",
+                "join(1, 0) = 1; tick(3) = 5; applicant(0, 0, 0) = ANXIOUS; cut(0, 1) = 0;",
+                "applicant(0, 0, 0) = ANXIOUS; isSettled() = 0; tick(1) = 1; isSettled() = 1");
         Script.run("18: a port declares what is registered at another port, not at itself",
                 ONE_HOST, "addHost(0, 1) = 1; join(0, 0) = 1; join(1, 0) = 1; tick(1) = 2;",
                 "isSettled() = 0; tick(2) = 6; isSettled() = 1");
