@@ -1,10 +1,8 @@
 /** Promises 6 to 12: setTimes, join, leave, setSilent, loseNext, tick, time. */
 public final class EventsTest {
-    private static final String ONE_HOST = "addBridge() = 0; addHost(0, 0) = 0;";
-    private static final String TWO_HOSTS = ONE_HOST + "addHost(0, 1) = 1;";
-    private static final String TWO_BRIDGES =
-            "addBridge() = 0; addBridge() = 1; connect(0, 0, 1, 0) = 1; addHost(0, 1) = 0;"
-            + "addHost(1, 1) = 1;";
+    private static final String ONE_HOST = Networks.ONE_HOST;
+    private static final String TWO_HOSTS = Networks.TWO_HOSTS;
+    private static final String TWO_BRIDGES = Networks.TWO_BRIDGES;
 
     public static void main(String[] args) {
         setTimes();

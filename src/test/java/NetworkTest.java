@@ -1,7 +1,6 @@
 /** Promises 1 to 5: a new object, addBridge, connect, cut, addHost. */
 public final class NetworkTest {
-    private static final String FIVE_BRIDGES =
-            "addBridge() = 0; addBridge() = 1; addBridge() = 2; addBridge() = 3; addBridge() = 4;";
+    private static final String FIVE_BRIDGES = Networks.FIVE_BRIDGES;
 
     // Host 0 at bridge 0 and host 1 at bridge 1, which has declared group 2 through the link 0-1.
     private static final String DECLARED_THROUGH_A_LINK =

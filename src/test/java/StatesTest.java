@@ -1,9 +1,7 @@
 /** Promises 13 to 18: registrar, registrarTimer, applicant, hostApplicant, leaveAllTimer, isSettled. */
 public final class StatesTest {
-    private static final String ONE_HOST = "addBridge() = 0; addHost(0, 0) = 0;";
-    private static final String TWO_BRIDGES =
-            "addBridge() = 0; addBridge() = 1; connect(0, 0, 1, 0) = 1; addHost(0, 1) = 0;"
-            + "addHost(1, 1) = 1;";
+    private static final String ONE_HOST = Networks.ONE_HOST;
+    private static final String TWO_BRIDGES = Networks.TWO_BRIDGES;
 
     public static void main(String[] args) {
         errorsOfPorts("13: ", "registrar");
