@@ -206,7 +206,7 @@ public final class EventEdgesTest {
                 "loseNext(-1, 4) = NO_SUCH_PORT");
         Sentence.changesNothing(10, "NOT_LINKED", "a free port, a port with a host", Networks.BUSY,
                 "loseNext(0, 3) = NOT_LINKED; loseNext(3, 3) = NOT_LINKED; loseNext(0, 1) = NOT_LINKED;",
-                "loseNext(3, 0) = NOT_LINKED");
+                "loseNext(2, 1) = NOT_LINKED; loseNext(3, 0) = NOT_LINKED");
         Sentence.changesNothing(10, "NOT_LINKED", "a port whose link was cut, at either end",
                 Networks.BUSY + "cut(0, 0) = 1;", "loseNext(0, 0) = NOT_LINKED; loseNext(1, 0) = NOT_LINKED");
         Sentence.holds(10, "NOT_LINKED", "a port that was refused is not marked when it is linked later",

@@ -42,7 +42,8 @@ final class Twins {
             (object, answers) -> statesAfter(object, answers, 7),
             (object, answers) -> statesAfter(object, answers, 60),
             Twins::statesAfterLeaves,
-            Twins::statesAfterJoins);
+            Twins::statesAfterJoins,
+            Twins::statesAfterLeaveAlls);
 
     private Twins() {
     }
@@ -126,7 +127,7 @@ final class Twins {
         }
     }
 
-    /** Shows the leave-all time at ports that are connected now, and the numbers that are free. */
+    /** Shows the leave-all time and marks at ports that are connected now, and the numbers that are free. */
     private static void growth(GroupRegistration object, Answers answers) {
         for (int bridge = 0; bridge + 1 < BRIDGES; bridge++) {
             for (int port = 0; port < PORTS; port++) {
@@ -144,8 +145,10 @@ final class Twins {
         for (int bridge = 0; bridge <= BRIDGES; bridge++) {
             answers.add("addBridge", object.addBridge());
         }
+        marksAndSilence(object, answers);
     }
 
+    /** Shows the links, and marks at ports that could not be linked before. */
     private static void cuts(GroupRegistration object, Answers answers) {
         for (int bridge = 0; bridge < BRIDGES; bridge++) {
             for (int port = 0; port < PORTS; port++) {
@@ -153,6 +156,13 @@ final class Twins {
             }
         }
         answers.add("setTimes", object.setTimes(1, 1));
+        for (int port = PORTS - 1; port >= 0; port--) {
+            for (int bridge = 0; bridge + 1 < BRIDGES; bridge++) {
+                int other = bridge + 1;
+                answers.add("connect", object.connect(bridge, port, other, port), bridge, port, other, port);
+            }
+        }
+        marksAndSilence(object, answers);
     }
 
     private static void statesAfter(GroupRegistration object, Answers answers, int ticks) {
@@ -177,5 +187,11 @@ final class Twins {
             }
         }
         statesAfter(object, answers, 2);
+    }
+
+    /** Shows a mark at a port with a host: what the host does not ignore is a leave-all alone. */
+    private static void statesAfterLeaveAlls(GroupRegistration object, Answers answers) {
+        answers.add("setTimes", object.setTimes(3, 1));
+        statesAfter(object, answers, 1);
     }
 }
