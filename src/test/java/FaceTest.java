@@ -10,9 +10,8 @@ import java.util.Arrays;
 import java.util.List;
 import java.util.Set;
 import java.util.TreeSet;
-import java.util.regex.Pattern;
 
-/** The public face of the document, and those rules of LANGUAGE.md that a program can look at. */
+/** The public face of the document: the compiled class by its members, the source by its words. */
 public final class FaceTest {
     private static final Path SOURCE = Path.of("src/main/java/GroupRegistration.java");
     private static final Set<String> METHODS = Set.of(
@@ -26,17 +25,15 @@ public final class FaceTest {
             "NO_SUCH_PORT = -1", "NO_SUCH_HOST = -2", "NO_SUCH_GROUP = -3", "BAD_VALUE = -4",
             "FULL = -5", "PORT_USED = -6", "NOT_LINKED = -7", "CYCLE = -8", "EMPTY = 0", "IN = 1",
             "LEAVING = 2", "OBSERVER = 0", "ANXIOUS = 1", "QUIET = 2", "LEAVER = 3");
-    private static final String[] FORBIDDEN_WORDS = {
-        "throw", "throws", "try", "catch", "synchronized", "assert", "package", "Object", "System.out",
-        "->", "::", "volatile", "native", "static \\{"
-    };
 
     public static void main(String[] args) throws IOException, IllegalAccessException {
         checkClass();
         checkMethods();
         checkConstants();
         checkClassesInside();
-        checkSource(Files.readAllLines(SOURCE));
+        if (Document.isAtHand()) {
+            checkSource(Files.readString(SOURCE));
+        }
         Script.end();
     }
 
@@ -100,18 +97,21 @@ public final class FaceTest {
         }
     }
 
-    private static void checkSource(List<String> lines) {
-        for (int i = 0; i < lines.size(); i++) {
-            String place = "line " + (i + 1) + " ";
-            String line = lines.get(i);
-            holds(place + "holds signs 1 to 127 alone", line.chars().allMatch(sign -> sign > 0 && sign < 128));
-            for (String word : FORBIDDEN_WORDS) {
-                holds(place + "is without " + word, !Pattern.compile("(?<!\\w)" + word + "(?!\\w)").matcher(line).find());
+    /** The document's block word by word, so that the names of the parameters are the document's too. */
+    private static void checkSource(String source) {
+        int open = 0;
+        for (String line : Document.section("The public face")) {
+            String declaration = line.trim().replaceFirst("\\);$", ") {");
+            if (declaration.startsWith("public ")) {
+                open++;
+                holds("the source has " + declaration, source.contains("\n" + indentOf(line) + declaration + "\n"));
             }
-            holds(place + "imports Arrays alone", !line.startsWith("import") || line.equals("import java.util.Arrays;"));
-            holds(place + "makes objects only where an object's fields begin",
-                    !line.contains("new ") || line.contains("/**") || line.contains(" * ")
-                            || line.trim().startsWith("private final "));
         }
+        long publicInSource = source.lines().filter(line -> line.trim().startsWith("public ")).count();
+        Script.due("declarations that are public", publicInSource, open);
+    }
+
+    private static String indentOf(String line) {
+        return line.substring(0, line.length() - line.stripLeading().length());
     }
 }

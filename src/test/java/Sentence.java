@@ -1,7 +1,3 @@
-import java.io.IOException;
-import java.nio.file.Files;
-import java.nio.file.Path;
-
 /**
  * Tests that are for one sentence of the document each. The sentence is quoted with its promise, and
  * it is looked up there, so that a test names no sentence that the document does not have.
@@ -9,8 +5,8 @@ import java.nio.file.Path;
 final class Sentence {
     /** Stands for the part "Description", which is before all promises. */
     static final int DESCRIPTION = 0;
-    private static final Path DOCUMENT = Path.of("../shared/DOC.md");
-    private static final String TEXT = readDocument();
+    /** Stands for the part "What it is", the first of all. */
+    static final int WHAT_IT_IS = -1;
 
     private Sentence() {
     }
@@ -30,28 +26,21 @@ final class Sentence {
     }
 
     private static String name(int promise, String quote, String edge) {
-        String place = promise == DESCRIPTION ? "Description" : "Promise " + promise;
-        boolean isThere = TEXT.isEmpty() || section(place).contains(quote);
+        String place = place(promise);
+        boolean isThere = !Document.isAtHand() || textOf(place).contains(quote);
         Script.due(place + " has the sentence \"" + quote + "\"", isThere ? 1 : 0, 1);
         return place + ", \"" + quote + "\", " + edge;
     }
 
-    private static String section(String place) {
-        int start = Math.max(TEXT.indexOf("## " + place + " "), TEXT.indexOf("## " + place + ":"));
-        if (start < 0) {
-            return "";
-        }
-        int end = TEXT.indexOf(" ## ", start);
-        return end < 0 ? TEXT.substring(start) : TEXT.substring(start, end);
+    private static String place(int promise) {
+        return switch (promise) {
+            case WHAT_IT_IS -> "What it is";
+            case DESCRIPTION -> "Description";
+            default -> "Promise " + promise;
+        };
     }
 
-    /** The answers are tested also where the document is not at hand; the quotes then are not. */
-    private static String readDocument() {
-        try {
-            return Files.readString(DOCUMENT).replace("`", "").replaceAll("\\s+", " ");
-        } catch (IOException e) {
-            System.out.println("the quotes are not looked up: " + DOCUMENT + " cannot be read");
-            return "";
-        }
+    private static String textOf(String place) {
+        return String.join(" ", Document.section(place)).replace("`", "").replaceAll("\\s+", " ");
     }
 }
