@@ -93,6 +93,10 @@ public final class DeliveryEdgesTest {
                 "addHost(0, 2) = 2; join(1, 0) = 1; join(2, 0) = 1; missedCount(0, 0) = 2; missedCount(1, 0) = 1");
         Sentence.holds(20, other, "hosts through four links are", Networks.FULL_NETWORK,
                 "join(7, 3) = 1; missedCount(0, 3) = 1; missedCount(6, 3) = 1; missedCount(7, 3) = 0");
+        Sentence.holds(20, other, "ports that declare the group are no hosts", Networks.FIVE_BRIDGES,
+                "connect(0, 0, 4, 3) = 1; addHost(0, 1) = 0; addHost(4, 0) = 1; join(1, 0) = 1; tick(9) = 6;",
+                "applicant(4, 3, 0) = QUIET; applicant(0, 1, 0) = QUIET; missedCount(0, 0) = 0; missedCount(1, 0) = 0;",
+                "leave(1, 0) = 1; missedCount(0, 0) = 0");
         Sentence.holds(20, other, "all seven at most", Networks.FULL_NETWORK,
                 "join(0, 0) = 1; join(1, 0) = 1; join(2, 0) = 1; join(3, 0) = 1; join(4, 0) = 1; join(5, 0) = 1;",
                 "join(6, 0) = 1; join(7, 0) = 1; missedCount(0, 0) = 7; missedCount(7, 0) = 7; missedCount(3, 0) = 7;",
